@@ -1,0 +1,244 @@
+/** Promises 1 to 8: a new object, begin, add, remove, turn, relieve, balance, setCapacity. */
+public final class NodesAndEdgesTest {
+    private static final Check check = new Check();
+
+    public static void main(String[] args) {
+        newObject();
+        begin();
+        add();
+        addByLoads();
+        addWrongly();
+        remove();
+        turn();
+        relieve();
+        relieveAlongPaths();
+        relieveWrongly();
+        balance();
+        balanceWhenTheLowestCannot();
+        setCapacity();
+        check.end();
+    }
+
+    private static void newObject() {
+        EdgeHolders x = new EdgeHolders();
+        check.due("NONE", -1, EdgeHolders.NONE);
+        int[] values = {6, 0, 0, 0, 0, 0, 0, 0};
+        for (int what = 0; what < values.length; what++) {
+            check.due("new: value " + what, values[what], x.value(what));
+        }
+        check.dueRow("new: loads", Check.row(0, 0, 0, 0, 0, 0), Check.loads(x));
+        check.dueRow("new: capacities", Check.row(3, 3, 3, 3, 3, 3), Check.nodeValues(x, 2));
+        check.due("new: text", 0, x.clearText());
+        check.dueThrow("new: undo", x, Check.STATE, x::undo);
+        EdgeHolders other = new EdgeHolders();
+        x.add(0, 1);
+        check.due("another object has its own edges", 0, other.value(1));
+    }
+
+    private static void begin() {
+        EdgeHolders x = Check.withEdges(6, "ab", "bc", "ab");
+        x.turn(0);
+        x.setCapacity(2, 9);
+        check.due("begin with edges", 3, x.begin(12));
+        int[] values = {12, 0, 0, 0, 0, 0, 0, 0};
+        for (int what = 0; what < values.length; what++) {
+            check.due("begin: value " + what, values[what], x.value(what));
+        }
+        check.dueRow("begin: capacities", Check.row(3, 3, 3, 3, 3, 3, 3, 3, 3, 3, 3, 3), Check.nodeValues(x, 2));
+        check.due("begin: saved states stay", 3, x.undo());
+        check.due("begin: undone", 3, x.value(1));
+        check.due("begin: undone capacity", 9, x.node(2, 2));
+        check.due("begin(2)", 3, x.begin(2));
+        check.due("begin(2) again", 0, x.begin(2));
+        check.due("the first number after begin", 0, x.add(1, 0));
+        check.due("begin keeps the text", 0, x.clearText());
+        x.append('b');
+        x.begin(7);
+        check.due("begin keeps the text", 1, x.clearText());
+        for (int nodes : new int[] {1, 0, -1, 13, Integer.MIN_VALUE, Integer.MAX_VALUE}) {
+            check.dueThrow("begin(" + nodes + ")", x, Check.ARGUMENT, () -> x.begin(nodes));
+        }
+    }
+
+    private static void add() {
+        EdgeHolders x = new EdgeHolders();
+        check.due("the first edge", 0, x.add(2, 4));
+        check.due("the second edge", 1, x.add(4, 2));
+        check.dueRow("first ends", Check.row(2, 4), Check.edgeValues(x, 0));
+        check.dueRow("second ends", Check.row(4, 2), Check.edgeValues(x, 1));
+        x.remove(1);
+        check.due("a number is not used again", 2, x.add(0, 5));
+        x.undo();
+        check.due("but by undo", 2, x.add(0, 5));
+        x.undo();
+        x.undo();
+        x.undo();
+        check.due("but by undo of several", 1, x.add(0, 5));
+    }
+
+    private static void addByLoads() {
+        EdgeHolders x = new EdgeHolders();
+        x.add(0, 1);
+        check.due("same loads: the first end", 0, x.edge(0, 2));
+        x.add(0, 1);
+        check.due("the second has the lesser load", 1, x.edge(1, 2));
+        x.add(1, 0);
+        check.due("same loads again: the first end", 1, x.edge(2, 2));
+        x.add(1, 2);
+        check.due("the second has no load", 2, x.edge(3, 2));
+        x.add(0, 1);
+        check.due("the first has the lesser load", 0, x.edge(4, 2));
+        check.dueRow("loads", Check.row(2, 2, 1, 0, 0, 0), Check.loads(x));
+        check.dueRow("adding turns nothing", Check.row(0, 0, 0, 0, 0), Check.edgeValues(x, 3));
+    }
+
+    private static void addWrongly() {
+        EdgeHolders x = Check.withEdges(4, "ab");
+        check.dueThrow("add(4, 0)", x, Check.INDEX, () -> x.add(4, 0));
+        check.dueThrow("add(0, 4)", x, Check.INDEX, () -> x.add(0, 4));
+        check.dueThrow("add(-1, 0)", x, Check.INDEX, () -> x.add(-1, 0));
+        check.dueThrow("add(0, -1)", x, Check.INDEX, () -> x.add(0, -1));
+        check.dueThrow("no node comes before both the same", x, Check.INDEX, () -> x.add(4, 4));
+        check.dueThrow("add(3, 3)", x, Check.ARGUMENT, () -> x.add(3, 3));
+        for (int edge = 1; edge < 40; edge++) {
+            check.due("add", edge, x.add(edge % 4, (edge + 1) % 4));
+        }
+        check.dueThrow("a 41st edge", x, Check.STATE, () -> x.add(0, 1));
+        check.dueThrow("both the same comes before 40 edges", x, Check.ARGUMENT, () -> x.add(1, 1));
+        check.dueThrow("no node comes before 40 edges", x, Check.INDEX, () -> x.add(1, 4));
+        x.remove(7);
+        check.due("room again", 40, x.add(2, 3));
+        check.due("40 edges", 40, x.value(1));
+    }
+
+    private static void remove() {
+        EdgeHolders x = Check.withEdges(6, "ab", "ab", "bc", "cd");
+        check.dueRow("held before", Check.row(0, 1, 2, 3), Check.edgeValues(x, 2));
+        x.turn(0);
+        check.due("remove an edge that was turned", 1, x.remove(0));
+        check.due("remove in the middle", 2, x.remove(2));
+        check.dueRow("loads", Check.row(0, 1, 0, 1, 0, 0), Check.loads(x));
+        check.dueRow("the others stay", Check.row(1, 3), Check.row(x.edgeAt(0), x.edgeAt(1)));
+        check.dueRow("their first ends", Check.row(0, 2), Check.edgeValues(x, 0));
+        check.dueRow("their second ends", Check.row(1, 3), Check.edgeValues(x, 1));
+        check.dueRow("their holders", Check.row(1, 3), Check.edgeValues(x, 2));
+        check.due("turned edges stay counted", 1, x.value(5));
+        check.due("the next number stays", 4, x.value(6));
+        for (int edge : new int[] {0, 2, 4, -1, Integer.MAX_VALUE, Integer.MIN_VALUE}) {
+            check.dueThrow("remove(" + edge + ")", x, Check.ELEMENT, () -> x.remove(edge));
+        }
+        x.remove(3);
+        x.remove(1);
+        check.due("no edges", 0, x.value(1));
+        x.undo();
+        check.due("remove is undoable", 1, x.edgeAt(0));
+    }
+
+    private static void turn() {
+        EdgeHolders x = Check.withEdges(3, "ab", "cb");
+        check.due("turn to the second end", 1, x.turn(0));
+        check.due("turn back", 0, x.turn(0));
+        check.due("turn another one", 1, x.turn(1));
+        check.dueRow("loads", Check.row(1, 1, 0), Check.loads(x));
+        check.dueRow("how often", Check.row(2, 1), Check.edgeValues(x, 3));
+        check.due("turned in all", 3, x.value(5));
+        x.undo();
+        check.dueRow("turn is undoable", Check.row(0, 2), Check.edgeValues(x, 2));
+        check.dueRow("turn is undoable: how often", Check.row(2, 0), Check.edgeValues(x, 3));
+        check.due("turn is undoable: in all", 2, x.value(5));
+        for (int edge : new int[] {2, -1, Integer.MAX_VALUE}) {
+            check.dueThrow("turn(" + edge + ")", x, Check.ELEMENT, () -> x.turn(edge));
+        }
+    }
+
+    private static void relieve() {
+        EdgeHolders x = Check.withEdges(3, "ab", "ab", "ab", "bc");
+        check.dueRow("loads before", Check.row(2, 1, 1), Check.loads(x));
+        check.dueThrow("a load less by one is not enough", x, Check.STATE, () -> x.relieve(0));
+        x.turn(3);
+        x.turn(1);
+        check.dueRow("loads then", Check.row(3, 1, 0), Check.loads(x));
+        check.due("the first in the order of visiting, not the least", 1, x.relieve(0));
+        check.dueRow("loads relieved", Check.row(2, 2, 0), Check.loads(x));
+        check.dueRow("the lowest edge is turned", Check.row(1, 0, 0, 1), Check.edgeValues(x, 2));
+        check.due("now along two edges", 2, x.relieve(0));
+        check.dueRow("loads relieved twice", Check.row(1, 2, 1), Check.loads(x));
+        check.due("turned in all", 5, x.value(5));
+        x.undo();
+        check.dueRow("relieve is undoable", Check.row(2, 2, 0), Check.loads(x));
+    }
+
+    private static void relieveAlongPaths() {
+        // a holds two; b, c, d hold one each in a row; e holds none
+        EdgeHolders x = Check.withEdges(6, "ab", "bc", "cd", "de", "af");
+        check.dueRow("loads before", Check.row(1, 1, 1, 1, 0, 1), Check.loads(x));
+        x.turn(4);
+        x.add(5, 0);
+        check.dueRow("loads then", Check.row(2, 1, 1, 1, 0, 1), Check.loads(x));
+        check.due("along four edges", 4, x.relieve(0));
+        check.dueRow("only the ends differ", Check.row(1, 1, 1, 1, 1, 1), Check.loads(x));
+        check.dueRow("holders", Check.row(1, 2, 3, 4, 0, 5), Check.edgeValues(x, 2));
+        check.dueRow("turnings", Check.row(1, 1, 1, 1, 1, 0), Check.edgeValues(x, 3));
+    }
+
+    private static void relieveWrongly() {
+        EdgeHolders x = Check.withEdges(3, "ab", "ab", "ab");
+        check.dueThrow("relieve(3)", x, Check.INDEX, () -> x.relieve(3));
+        check.dueThrow("relieve(-1)", x, Check.INDEX, () -> x.relieve(-1));
+        check.dueThrow("no load", x, Check.STATE, () -> x.relieve(2));
+        check.dueThrow("no light node is visited", x, Check.STATE, () -> x.relieve(0));
+    }
+
+    private static void balance() {
+        EdgeHolders x = Check.withEdges(4, "ab", "ac", "ad");
+        x.turn(1);
+        x.turn(2);
+        check.dueRow("loads before", Check.row(3, 0, 0, 0), Check.loads(x));
+        check.due("a node that is relieved twice counts twice", 2, x.balance());
+        check.dueRow("loads", Check.row(1, 1, 1, 0), Check.loads(x));
+        check.due("turned", 4, x.value(5));
+        check.due("nothing is left to do", 0, x.balance());
+        x.undo();
+        check.dueRow("an undo of nothing", Check.row(1, 1, 1, 0), Check.loads(x));
+        x.undo();
+        check.dueRow("balance is undoable", Check.row(3, 0, 0, 0), Check.loads(x));
+        EdgeHolders none = new EdgeHolders();
+        check.due("without edges", 0, none.balance());
+        check.due("that saves, too", 0, none.undo());
+    }
+
+    private static void balanceWhenTheLowestCannot() {
+        // a and b hold two each and reach nobody else; e holds two and can be relieved
+        EdgeHolders x = Check.withEdges(6, "ab", "ab", "ab", "ab", "ef", "ef");
+        x.turn(5);
+        check.dueRow("loads before", Check.row(2, 2, 0, 0, 2, 0), Check.loads(x));
+        check.due("another one of the heaviest", 1, x.balance());
+        check.dueRow("loads", Check.row(2, 2, 0, 0, 1, 1), Check.loads(x));
+        // only the heaviest are relieved: e could be, but a and b cannot
+        EdgeHolders y = Check.withEdges(6, "ab", "ab", "ab", "ab", "ab", "ab", "ef", "ef");
+        y.turn(7);
+        check.due("nobody of the heaviest", 0, y.balance());
+        check.dueRow("loads stay", Check.row(3, 3, 0, 0, 2, 0), Check.loads(y));
+        // of two that can be relieved the lowest is first: the edge 2 goes from a, not from b
+        EdgeHolders z = Check.withEdges(3, "ac", "bc", "ac", "bc");
+        check.dueRow("holders before", Check.row(0, 1, 2, 1), Check.edgeValues(z, 2));
+        z.turn(2);
+        check.due("the lowest first", 1, z.balance() - z.balance());
+        check.dueRow("holders", Check.row(2, 1, 0, 1), Check.edgeValues(z, 2));
+    }
+
+    private static void setCapacity() {
+        EdgeHolders x = Check.withEdges(3, "ab", "ab");
+        check.due("the capacity at first", 3, x.setCapacity(0, 0));
+        check.due("the one before", 0, x.setCapacity(0, 40));
+        check.due("again", 40, x.setCapacity(0, 7));
+        check.dueRow("capacities", Check.row(7, 3, 3), Check.nodeValues(x, 2));
+        x.undo();
+        check.dueRow("setCapacity is undoable", Check.row(40, 3, 3), Check.nodeValues(x, 2));
+        check.dueThrow("setCapacity(3, 1)", x, Check.INDEX, () -> x.setCapacity(3, 1));
+        check.dueThrow("setCapacity(-1, 1)", x, Check.INDEX, () -> x.setCapacity(-1, 1));
+        check.dueThrow("setCapacity(0, 41)", x, Check.ARGUMENT, () -> x.setCapacity(0, 41));
+        check.dueThrow("setCapacity(0, -1)", x, Check.ARGUMENT, () -> x.setCapacity(0, -1));
+        check.dueThrow("no node comes first", x, Check.INDEX, () -> x.setCapacity(3, 41));
+    }
+}
