@@ -5,6 +5,7 @@ public final class NodesAndEdgesTest {
     public static void main(String[] args) {
         newObject();
         begin();
+        beginForgetsEverything();
         add();
         addByLoads();
         addWrongly();
@@ -60,6 +61,32 @@ public final class NodesAndEdgesTest {
         }
     }
 
+    private static void beginForgetsEverything() {
+        EdgeHolders x = Check.withEdges(12);
+        for (int edge = 0; edge < 40; edge++) {
+            x.turn(x.add(edge % 7, 7 + edge % 5));
+        }
+        x.densest();
+        x.tooDense();
+        x.path(0, 8);
+        for (int nodes = 12; nodes >= 2; nodes--) {
+            x.begin(nodes);
+            check.due("no edges: densest", (1 << nodes) - 1, x.densest());
+            check.due("no edges: least", 0, x.least());
+            EdgeHolders y = new EdgeHolders();
+            for (EdgeHolders each : new EdgeHolders[] {x, y}) {
+                each.begin(nodes);
+                each.balance();
+                each.add(0, 1);
+                each.setCapacity(1, 0);
+                each.setCapacity(0, 0);
+            }
+            check.that("as a new object with " + nodes + " nodes", Check.picture(x).equals(Check.picture(y)));
+            check.due("critical", 0, x.critical());
+            check.dueRow("least with one more, and without it", Check.row(1, 0), Check.row(x.leastWith(1, 0), x.leastWithout(0)));
+        }
+    }
+
     private static void add() {
         EdgeHolders x = new EdgeHolders();
         check.due("the first edge", 0, x.add(2, 4));
@@ -74,6 +101,10 @@ public final class NodesAndEdgesTest {
         x.undo();
         x.undo();
         check.due("but by undo of several", 1, x.add(0, 5));
+        x.turn(1);
+        x.remove(1);
+        x.add(3, 4);
+        check.due("a new edge was never turned", 0, x.edge(2, 3));
     }
 
     private static void addByLoads() {
@@ -109,6 +140,10 @@ public final class NodesAndEdgesTest {
         x.remove(7);
         check.due("room again", 40, x.add(2, 3));
         check.due("40 edges", 40, x.value(1));
+        check.dueRow("the last edge of 40", Check.row(2, 3), Check.row(x.edge(40, 0), x.edge(40, 1)));
+        x.remove(20);
+        check.dueRow("the last edge of 39", Check.row(2, 3), Check.row(x.edge(40, 0), x.edge(40, 1)));
+        check.due("its number", 40, x.edgeAt(38));
     }
 
     private static void remove() {
@@ -187,6 +222,13 @@ public final class NodesAndEdgesTest {
         check.dueThrow("relieve(-1)", x, Check.INDEX, () -> x.relieve(-1));
         check.dueThrow("no load", x, Check.STATE, () -> x.relieve(2));
         check.dueThrow("no light node is visited", x, Check.STATE, () -> x.relieve(0));
+        EdgeHolders y = Check.withEdges(3, "ab", "bc");
+        check.due("all three are visited", 2, y.path(0, 2));
+        y.begin(3);
+        for (int edge = 0; edge < 3; edge++) {
+            y.add(0, 1);
+        }
+        check.dueThrow("nodes that were visited earlier do not count", y, Check.STATE, () -> y.relieve(0));
     }
 
     private static void balance() {
@@ -203,6 +245,11 @@ public final class NodesAndEdgesTest {
         x.undo();
         check.dueRow("balance is undoable", Check.row(3, 0, 0, 0), Check.loads(x));
         EdgeHolders none = new EdgeHolders();
+        EdgeHolders back = Check.withEdges(2, "ba", "ba", "ba");
+        back.turn(1);
+        check.dueRow("all on the last node", Check.row(0, 3), Check.loads(back));
+        check.due("relieved to the node 0", 1, back.balance());
+        check.dueRow("loads then", Check.row(1, 2), Check.loads(back));
         check.due("without edges", 0, none.balance());
         check.due("that saves, too", 0, none.undo());
     }

@@ -93,6 +93,11 @@ public final class PathsAndPartsTest {
         check.dueThrow("no such node from", x, Check.INDEX, () -> x.step(6, 0, 0));
         check.dueThrow("no such node to", x, Check.INDEX, () -> x.step(0, 6, 0));
         check.dueThrow("a negative node", x, Check.INDEX, () -> x.step(-1, 0, 0));
+        for (int node : new int[] {32, 33, -31, -32, Integer.MAX_VALUE, Integer.MIN_VALUE}) {
+            check.dueThrow("step from " + node, x, Check.INDEX, () -> x.step(node, 1, 0));
+            check.dueThrow("step to " + node, x, Check.INDEX, () -> x.step(0, node, 0));
+            check.dueThrow("step from and to " + node, x, Check.INDEX, () -> x.step(node, node, 0));
+        }
     }
 
     private static void inner() {

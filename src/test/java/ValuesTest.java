@@ -80,6 +80,9 @@ public final class ValuesTest {
         for (int what = 0; what < values.length; what++) {
             check.due("value " + what, values[what], x.value(what));
         }
+        EdgeHolders y = Check.withEdges(2, "ba", "ba", "ba");
+        check.due("the least load of the node 0", 1, y.value(3));
+        check.due("the greatest load of the last node", 2, y.value(2));
         x.setCapacity(0, 3);
         check.due("a load as great as the capacity", 0, x.value(7));
         x.setCapacity(2, 0);

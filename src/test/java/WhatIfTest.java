@@ -22,7 +22,9 @@ public final class WhatIfTest {
         x.add(0, 1);
         check.due("a third edge there", 2, x.leastWith(0, 1));
         check.due("an edge elsewhere", 1, x.leastWith(2, 3));
+        check.due("a third edge the other way round", 2, x.leastWith(1, 0));
         check.due("an edge from there", 1, x.leastWith(1, 2));
+        check.due("an edge to there", 1, x.leastWith(2, 1));
         x.add(1, 2);
         x.add(2, 3);
         x.add(3, 3 - 1);
