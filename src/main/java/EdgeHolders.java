@@ -526,8 +526,9 @@ public final class EdgeHolders {
         }
 
         int flip(int slot) {
-            int holder = endNotHolding(slot);
-            loads.increase(holders.get(slot), -1);
+            int before = holders.get(slot);
+            int holder = firsts.get(slot) + seconds.get(slot) - before;
+            loads.increase(before, -1);
             loads.increase(holder, 1);
             holders.set(slot, holder);
             turnings.increase(slot, 1);
@@ -536,8 +537,7 @@ public final class EdgeHolders {
         }
 
         int endNotHolding(int slot) {
-            int first = firsts.get(slot);
-            return holders.get(slot) == first ? seconds.get(slot) : first;
+            return firsts.get(slot) + seconds.get(slot) - holders.get(slot);
         }
 
         int endsOf(int slot) {
@@ -645,14 +645,11 @@ public final class EdgeHolders {
             visited = 0;
             visit(from, NONE, NONE);
             for (int place = 0; place < count && place < MOST_NODES; place++) {
-                visitAllHeldBy(graph, order.get(place));
-            }
-        }
-
-        private void visitAllHeldBy(Graph graph, int holder) {
-            for (int slot = 0; slot < graph.edges; slot++) {
-                if (graph.holders.get(slot) == holder) {
-                    visit(graph.endNotHolding(slot), slot, holder);
+                int holder = order.get(place);
+                for (int slot = 0; slot < graph.edges; slot++) {
+                    if (graph.holders.get(slot) == holder) {
+                        visit(graph.endNotHolding(slot), slot, holder);
+                    }
                 }
             }
         }
@@ -724,20 +721,18 @@ public final class EdgeHolders {
         /** Balances, and returns how many nodes are relieved. */
         int evenOut(Graph graph) {
             int relieved = 0;
-            while (relieved < MOST_RELIEVINGS && relieveOneOfHeaviest(graph)) {
-                relieved++;
-            }
-            return relieved;
-        }
-
-        private boolean relieveOneOfHeaviest(Graph graph) {
             int greatest = graph.greatestLoad();
-            for (int node = 0; node < graph.nodes; node++) {
+            int node = 0;
+            while (node < graph.nodes && relieved < MOST_RELIEVINGS) {
                 if (graph.loads.get(node) == greatest && relieveNode(graph, node) > 0) {
-                    return true;
+                    relieved++;
+                    greatest = graph.greatestLoad();
+                    node = 0;
+                } else {
+                    node++;
                 }
             }
-            return false;
+            return relieved;
         }
     }
 
