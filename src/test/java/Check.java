@@ -14,6 +14,12 @@ final class Check {
 
     private int checks;
     private int wrong;
+    private String where = "";
+
+    /** What is checked from here on is reported with this name in front. */
+    void enter(String name) {
+        where = name;
+    }
 
     void due(String what, long want, long got) {
         checks++;
@@ -36,6 +42,13 @@ final class Check {
         }
     }
 
+    void dueText(String what, String want, String got) {
+        checks++;
+        if (!got.equals(want)) {
+            report(what + " answered " + got + ", due is " + want);
+        }
+    }
+
     void that(String what, boolean holds) {
         checks++;
         if (!holds) {
@@ -43,11 +56,33 @@ final class Check {
         }
     }
 
-    /** The call throws exactly this exception, and nothing that can be seen has changed. */
+    interface Deed {
+        void to(EdgeHolders x);
+    }
+
+    /** The call throws exactly this exception, and the digest stays; few calls, as an object answers 512 of them. */
     void dueThrow(String what, EdgeHolders x, Class<? extends RuntimeException> kind, Call call) {
-        String before = picture(x);
-        that(what + " throws " + kind.getSimpleName(), kind == thrownBy(call));
-        that(what + " changes nothing", before.equals(picture(x)));
+        long before = x.digest();
+        dueThrown(what, kind, call);
+        due(what + " changes nothing: digest", before, x.digest());
+    }
+
+    void dueThrown(String what, Class<? extends RuntimeException> kind, Call call) {
+        Class<?> thrown = thrownBy(call);
+        dueText(what, "throws." + kind.getSimpleName(), thrown == null ? "nothing" : "throws." + thrown.getSimpleName());
+    }
+
+    /** The call throws exactly this exception; all answers are the same before and behind it, those of undo, too. */
+    void refused(String what, Class<? extends RuntimeException> kind, Look.Maker maker, Deed deed) {
+        EdgeHolders x = maker.make();
+        String before = Look.NUMBERS.at(x);
+        dueThrown(what, kind, () -> deed.to(x));
+        dueText(what + ", before and behind it", before, Look.NUMBERS.at(x));
+        Look.dueAlike(this, what + ", as without it", maker, () -> {
+            EdgeHolders y = maker.make();
+            thrownBy(() -> deed.to(y));
+            return y;
+        });
     }
 
     static Class<?> thrownBy(Call call) {
@@ -127,7 +162,7 @@ final class Check {
 
     private void report(String line) {
         wrong++;
-        System.out.println(line);
+        System.out.println(where + line);
     }
 
     void end() {

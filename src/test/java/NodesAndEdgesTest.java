@@ -62,14 +62,14 @@ public final class NodesAndEdgesTest {
     }
 
     private static void beginForgetsEverything() {
-        EdgeHolders x = Check.withEdges(12);
-        for (int edge = 0; edge < 40; edge++) {
-            x.turn(x.add(edge % 7, 7 + edge % 5));
-        }
-        x.densest();
-        x.tooDense();
-        x.path(0, 8);
         for (int nodes = 12; nodes >= 2; nodes--) {
+            EdgeHolders x = Check.withEdges(12);
+            for (int edge = 0; edge < 40; edge++) {
+                x.turn(x.add(edge % 7, 7 + edge % 5));
+            }
+            x.densest();
+            x.tooDense();
+            x.path(0, 8);
             x.begin(nodes);
             check.due("no edges: densest", (1 << nodes) - 1, x.densest());
             check.due("no edges: least", 0, x.least());

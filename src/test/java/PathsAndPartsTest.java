@@ -157,12 +157,13 @@ public final class PathsAndPartsTest {
 
     private static void leastIsTheLeastOfAllTurnings() {
         EdgeHolders x = Check.withEdges(5, "ab", "ac", "ad", "bc", "bd", "cd", "ab", "ae");
+        int[][] ends = {Check.edgeValues(x, 0), Check.edgeValues(x, 1)};
         int least = Integer.MAX_VALUE;
         for (int turned = 0; turned < 1 << 8; turned++) {
             int[] loads = new int[5];
             int greatest = 0;
             for (int edge = 0; edge < 8; edge++) {
-                int holder = x.edge(edge, turned >> edge & 1);
+                int holder = ends[turned >> edge & 1][edge];
                 greatest = Math.max(greatest, ++loads[holder]);
             }
             least = Math.min(least, greatest);

@@ -8,12 +8,17 @@ public final class RunsTest {
 
     private static final Check check = new Check();
 
+    // Behind its 512th call an object may answer as it likes: a step of a run makes at most 62 calls, its end 11.
+    private static final int MOST_CALLS = 512;
+    private static final int MOST_CALLS_BEFORE_A_STEP = MOST_CALLS - 11 - 62;
+
     private final Random random;
     private final EdgeHolders x = new EdgeHolders();
     private final Model m = new Model();
     private final int run;
     private final int kind;
     private int nodes = 6;
+    private int calls;
     private String last = "";
 
     private RunsTest(int run) {
@@ -23,7 +28,7 @@ public final class RunsTest {
     }
 
     public static void main(String[] args) {
-        for (int run = 0; run < 160; run++) {
+        for (int run = 0; run < 360; run++) {
             new RunsTest(run).make();
         }
         check.end();
@@ -34,7 +39,7 @@ public final class RunsTest {
             int some = kind == 3 && run % 8 != 3 ? 7 + random.nextInt(2) : 2 + random.nextInt(kind == 3 ? 11 : 5);
             same("begin", () -> x.begin(some), () -> m.begin(some));
         }
-        for (int call = 0; call < 500; call++) {
+        while (calls <= MOST_CALLS_BEFORE_A_STEP) {
             nodes = m.value(0);
             if (random.nextInt(100) < (nodes > 8 ? 90 : 70)) {
                 change();
@@ -47,6 +52,7 @@ public final class RunsTest {
             same("undo", x::undo, m::undo);
             same("digest", x::digest, m::digest);
         }
+        check.that("run " + run + " makes at most 512 calls, not " + calls, calls <= MOST_CALLS);
     }
 
     private int anyNode() {
@@ -192,6 +198,7 @@ public final class RunsTest {
     }
 
     private void same(String what, Answer got, Answer want) {
+        calls++;
         String due = told(want);
         String answered = told(got);
         check.that("run " + run + ": " + what + " (" + answered + ", due is " + due + ")", due.equals(answered));
