@@ -849,7 +849,7 @@ public final class EdgeHolders {
             writeSums(capacitySums, 0, capacities, nodes);
             int found = NONE;
             int most = 0;
-            for (int part = 1; part < sets && part < innerEdges.length; part++) {
+            for (int part = 1; part < sets && part < innerEdges.length && part < capacitySums.length; part++) {
                 int tooMany = innerEdges[part] - capacitySums[part];
                 if (tooMany > most) {
                     most = tooMany;

@@ -12,9 +12,28 @@ final class Check {
     static final Class<IndexOutOfBoundsException> INDEX = IndexOutOfBoundsException.class;
     static final Class<NoSuchElementException> ELEMENT = NoSuchElementException.class;
 
+    // A class that does not come to an end is to fail, too.
+    private static final long MOST_MILLISECONDS = 120_000;
+
     private int checks;
     private int wrong;
     private String where = "";
+
+    Check() {
+        Thread watch = new Thread(this::endLateTest);
+        watch.setDaemon(true);
+        watch.start();
+    }
+
+    private void endLateTest() {
+        try {
+            Thread.sleep(MOST_MILLISECONDS);
+        } catch (InterruptedException e) {
+            return;
+        }
+        System.out.println(where + "no end after " + MOST_MILLISECONDS + " ms");
+        Runtime.getRuntime().halt(1);
+    }
 
     /** What is checked from here on is reported with this name in front. */
     void enter(String name) {

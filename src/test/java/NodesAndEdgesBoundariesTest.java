@@ -148,6 +148,9 @@ public final class NodesAndEdgesBoundariesTest {
     static void promise02_begin_leavesNothingOfBefore() {
         for (int nodes : new int[] {2, 6, 11, 12}) {
             EdgeHolders x = Scenes.full();
+            for (int edge = 0; edge < 40; edge++) {
+                x.turn(edge);
+            }
             x.setCapacity(0, 0);
             x.setCapacity(11, 40);
             x.begin(nodes);
@@ -325,6 +328,19 @@ public final class NodesAndEdgesBoundariesTest {
         check.due("adding counts no turning", 0, both.value(5));
     }
 
+    @Says("3 how often it was turned so far, by any method")
+    static void promise03_add_aNewEdgeWasNeverTurned() {
+        EdgeHolders x = Scenes.pair(40);
+        x.turn(39);
+        x.turn(38);
+        x.remove(39);
+        check.due("in the place of the fortieth", 0, x.edge(x.add(0, 1), 3));
+        x.remove(38);
+        x.remove(40);
+        check.due("in the place before it", 0, x.edge(x.add(0, 1), 3));
+        check.due("in the place of the fortieth again", 0, x.edge(x.add(0, 1), 3));
+    }
+
     // ---- promises 4 and 5
 
     @Says("Throws `NoSuchElementException` if there is no such edge")
@@ -353,6 +369,31 @@ public final class NodesAndEdgesBoundariesTest {
             check.due("its holder", (index + 1) % 2, x.edge(index + 1, 2));
         }
         check.dueRow("loads", Check.row(19, 19), Check.nodeValues(x, 0));
+    }
+
+    @Says("numbered from 0 in the order in which they were added")
+    static void promise04_remove_theOthersStayAsTheyAre() {
+        for (int removed = 0; removed < 8; removed++) {
+            EdgeHolders x = Scenes.pair(0);
+            for (int edge = 0; edge < 8; edge++) {
+                x.add(edge % 2, 1 - edge % 2);
+                for (int turning = 0; turning < edge; turning++) {
+                    x.turn(edge);
+                }
+            }
+            int[] holders = Check.edgeValues(x, 2);
+            x.remove(removed);
+            for (int edge = 0; edge < 8; edge++) {
+                if (edge != removed) {
+                    check.due("number", edge, x.edgeAt(edge < removed ? edge : edge - 1));
+                    check.due("first end", edge % 2, x.edge(edge, 0));
+                    check.due("second end", 1 - edge % 2, x.edge(edge, 1));
+                    check.due("holder", holders[edge], x.edge(edge, 2));
+                    check.due("turnings", edge, x.edge(edge, 3));
+                }
+            }
+            check.due("all turnings", 28, x.value(5));
+        }
     }
 
     @Says("Returns the node that held it.")
@@ -454,11 +495,7 @@ public final class NodesAndEdgesBoundariesTest {
 
     @Says("the load of u falls by 1, that of v grows by 1, all others stay")
     static void promise06_relieve_theLongestPath() {
-        EdgeHolders x = Scenes.rowOfTwelve();
-        x.add(0, 1);
-        if (x.edge(11, 2) != 0) {
-            x.turn(11);
-        }
+        EdgeHolders x = Scenes.rowWithTwoAtItsStart();
         check.dueRow("loads before", Check.row(2, 1, 1, 1, 1, 1, 1, 1, 1, 1, 1, 0), Check.nodeValues(x, 0));
         int before = x.value(5);
         check.due("eleven edges", 11, x.relieve(0));
@@ -472,10 +509,7 @@ public final class NodesAndEdgesBoundariesTest {
 
     @Says("Returns the number of edges that are turned.")
     static void promise06_relieve_fortyEdgesOfOneNode() {
-        EdgeHolders x = Scenes.pair(40);
-        for (int edge = 1; edge < 40; edge += 2) {
-            x.turn(edge);
-        }
+        EdgeHolders x = Scenes.fortyOfOne();
         check.dueRow("loads before", Check.row(40, 0), Check.nodeValues(x, 0));
         check.due("one edge", 1, x.relieve(0));
         check.dueRow("loads", Check.row(39, 1), Check.nodeValues(x, 0));

@@ -102,8 +102,15 @@ public final class PathsAndPartsBoundariesTest {
         check.refused("from below", Check.INDEX, Scenes::busy, y -> y.step(-1, 0, 0));
         check.refused("to below", Check.INDEX, Scenes::busy, y -> y.step(0, -1, 0));
         for (int node : Scenes.FAR) {
-            check.dueThrow("from " + node, x, Check.INDEX, () -> x.step(node, 5, 0));
-            check.dueThrow("to " + node, x, Check.INDEX, () -> x.step(0, node, 0));
+            EdgeHolders ring = Scenes.held(6, "ab", "bc", "cd", "de", "ef", "fa");
+            for (int other = 0; other < 6; other++) {
+                int some = other;
+                check.due("the path there is, as long as can be", 5, ring.path(other, (other + 5) % 6));
+                check.dueThrow("from " + node, ring, Check.INDEX, () -> ring.step(node, some, 0));
+                check.dueThrow("to " + node, ring, Check.INDEX, () -> ring.step(some, node, 0));
+                check.dueThrow("path from " + node, ring, Check.INDEX, () -> ring.path(node, some));
+                check.dueThrow("path to " + node, ring, Check.INDEX, () -> ring.path(some, node));
+            }
         }
     }
 
@@ -219,6 +226,38 @@ public final class PathsAndPartsBoundariesTest {
         check.due("6 of 5 is less than 5 of 4", 0b1111, Scenes.held(9, "ab", "bc", "cd", "da", "ac", "ef", "fg", "gh", "hi", "ie", "eg").densest());
     }
 
+    @Says("of several, the one with the most nodes; of several, the one with the least number")
+    static void promise16_densest_ofAllSmallGraphs() {
+        for (int graph = 0; graph < 729; graph++) {
+            EdgeHolders x = small(graph);
+            int best = 1;
+            for (int part = 2; part < 16; part++) {
+                int nodes = Integer.bitCount(part);
+                int bestNodes = Integer.bitCount(best);
+                int denser = x.inner(part) * bestNodes - x.inner(best) * nodes;
+                best = denser > 0 || denser == 0 && nodes > bestNodes ? part : best;
+            }
+            check.due("densest of the graph " + graph, best, x.densest());
+            check.due("least of the graph " + graph,
+                (x.inner(best) + Integer.bitCount(best) - 1) / Integer.bitCount(best), x.least());
+        }
+    }
+
+    /** Four nodes; each digit of the number, in threes, says how many edges join one pair of them. */
+    private static EdgeHolders small(int graph) {
+        String[] pairs = {"ab", "ac", "ad", "bc", "bd", "cd"};
+        EdgeHolders x = new EdgeHolders();
+        x.begin(4);
+        int rest = graph;
+        for (String pair : pairs) {
+            for (int edge = 0; edge < rest % 3; edge++) {
+                x.add(pair.charAt(0) - 'a', pair.charAt(1) - 'a');
+            }
+            rest /= 3;
+        }
+        return x;
+    }
+
     @Says("There are at most 40")
     static void promise16_densest_withFortyEdges() {
         check.due("all between two nodes", 3, Scenes.pair(40).densest());
@@ -326,6 +365,28 @@ public final class PathsAndPartsBoundariesTest {
         further.setCapacity(1, 0);
         further.setCapacity(2, 1);
         check.due("one edge more with one more room", 3, further.tooDense());
+    }
+
+    @Says("of several the one with the least number; NONE if no part has more inner edges than this sum")
+    static void promise18_tooDense_ofAllSmallGraphs() {
+        for (int graph = 0; graph < 729; graph++) {
+            EdgeHolders x = small(graph);
+            int[] capacities = {graph % 2, graph / 2 % 3, graph % 5 / 2, graph / 7 % 2};
+            for (int node = 0; node < 4; node++) {
+                x.setCapacity(node, capacities[node]);
+            }
+            int best = EdgeHolders.NONE;
+            int most = 0;
+            for (int part = 1; part < 16; part++) {
+                int over = x.inner(part);
+                for (int node = 0; node < 4; node++) {
+                    over -= (part >> node & 1) * capacities[node];
+                }
+                best = over > most ? part : best;
+                most = Math.max(most, over);
+            }
+            check.due("tooDense of the graph " + graph, best, x.tooDense());
+        }
     }
 
     @Says("the part with the greatest number of inner edges minus the sum of its capacities")

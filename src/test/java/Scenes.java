@@ -68,12 +68,18 @@ final class Scenes {
         return held(12, "ab", "bc", "cd", "de", "ef", "fg", "gh", "hi", "ij", "jk", "kl");
     }
 
-    static int[] numbers(int first, int count) {
-        int[] row = new int[count];
-        for (int at = 0; at < count; at++) {
-            row[at] = first + at;
+    /** The same, but the first node holds a second edge, of the number 11, to the second node. */
+    static EdgeHolders rowWithTwoAtItsStart() {
+        return held(12, "ab", "bc", "cd", "de", "ef", "fg", "gh", "hi", "ij", "jk", "kl", "ab");
+    }
+
+    /** Two nodes with forty edges, all held by the first one; the edges with an odd number were turned once. */
+    static EdgeHolders fortyOfOne() {
+        EdgeHolders x = pair(40);
+        for (int edge = 1; edge < 40; edge += 2) {
+            x.turn(edge);
         }
-        return row;
+        return x;
     }
 
     /** So many times the same number. */

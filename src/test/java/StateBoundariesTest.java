@@ -297,10 +297,7 @@ public final class StateBoundariesTest {
 
     /** The greatest values: a load of 40, 1600 as the sum of the squares, and a part that is too dense. */
     private static EdgeHolders heavy() {
-        EdgeHolders x = Scenes.pair(40);
-        for (int edge = 1; edge < 40; edge += 2) {
-            x.turn(edge);
-        }
+        EdgeHolders x = Scenes.fortyOfOne();
         x.setCapacity(0, 0);
         x.setCapacity(1, 0);
         return x;

@@ -326,6 +326,16 @@ public final class TextBoundariesTest {
         }
     }
 
+    @Says("up to the first one that would throw an exception (that one is not carried out)")
+    static void promise27_carryOut_theOrdersAheadOfOneThatWouldThrow() {
+        String[] well = {"+ac;", "-0;", "t1;", "ra;", "b;", "ca=0;"};
+        for (String order : well) {
+            for (String throwing : new String[] {"+kl;", "+ll;", "-999;", "t999;", "rl;", "cl=40;"}) {
+                Look.dueAlike(check, order + throwing, () -> behind(order, 1), () -> behind(order + throwing + "b;", 1));
+            }
+        }
+    }
+
     /** A busy object that carried out so many orders; without the text, whose length would be seen. */
     private static EdgeHolders behind(String text, int orders) {
         EdgeHolders x = Scenes.busy();

@@ -73,6 +73,9 @@ public final class ValuesBoundariesTest {
         check.due("by thirteen edges", 13, x.node(5, 1));
         check.due("the first is joined with one", 1, x.node(0, 3));
         check.due("the last is joined with one", 1, x.node(11, 3));
+        EdgeHolders y = Scenes.held(4, "ab", "bc", "cb");
+        check.dueRow("by one edge, the lowest, and by several", Check.row(1, 2, 1, 0), Check.nodeValues(y, 3));
+        check.dueRow("by one edge alone", Check.row(1, 1), Check.nodeValues(Scenes.pair(1), 3));
     }
 
     @Says("4 the set of the nodes that are visited from it on, itself too")
@@ -201,10 +204,7 @@ public final class ValuesBoundariesTest {
 
     @Says("2 the greatest load, 3 the least load, 4 the sum of the squares of all loads")
     static void promise12_value_fortyEdgesOfOneNode() {
-        EdgeHolders x = Scenes.pair(40);
-        for (int edge = 1; edge < 40; edge += 2) {
-            x.turn(edge);
-        }
+        EdgeHolders x = Scenes.fortyOfOne();
         int[] due = {2, 40, 40, 0, 1600, 20, 40, 1};
         for (int what = 0; what < 8; what++) {
             check.due("value " + what, due[what], x.value(what));
@@ -268,10 +268,7 @@ public final class ValuesBoundariesTest {
         check.due("1 of 0", 1, x.value(7));
         x.setCapacity(0, 2);
         check.due("two nodes", 2, x.value(7));
-        EdgeHolders full = Scenes.pair(40);
-        for (int edge = 1; edge < 40; edge += 2) {
-            full.turn(edge);
-        }
+        EdgeHolders full = Scenes.fortyOfOne();
         full.setCapacity(0, 40);
         check.due("40 of 40", 0, full.value(7));
         full.setCapacity(0, 39);

@@ -187,17 +187,10 @@ public final class WhatIfBoundariesTest {
 
     @Says("Tells how many edges balancing would turn (an edge that is turned twice counts twice).")
     static void promise22_turnsToBalance_allEdgesOfThePaths() {
-        EdgeHolders row = Scenes.rowOfTwelve();
-        row.add(0, 1);
-        if (row.edge(11, 2) != 0) {
-            row.turn(11);
-        }
+        EdgeHolders row = Scenes.rowWithTwoAtItsStart();
         check.due("one path of eleven edges", 11, row.turnsToBalance());
         check.due("it is one node that is relieved", 1, row.balance());
-        EdgeHolders full = Scenes.pair(40);
-        for (int edge = 1; edge < 40; edge += 2) {
-            full.turn(edge);
-        }
+        EdgeHolders full = Scenes.fortyOfOne();
         int before = full.value(5);
         check.due("twenty paths of one edge", 20, full.turnsToBalance());
         check.due("the question turned none", before, full.value(5));
