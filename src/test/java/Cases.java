@@ -18,7 +18,7 @@ final class Cases {
         Set<Integer> tested = new TreeSet<>();
         for (Method method : methods) {
             if (method.getName().startsWith(START)) {
-                tested.add(Integer.parseInt(method.getName().substring(START.length(), START.length() + 2)));
+                tested.add(promiseOf(method));
                 runOne(method, check);
             }
         }
@@ -28,9 +28,13 @@ final class Cases {
         }
     }
 
+    static int promiseOf(Method method) {
+        return Integer.parseInt(method.getName().substring(START.length(), START.length() + 2));
+    }
+
     private static void runOne(Method method, Check check) {
         Says says = method.getAnnotation(Says.class);
-        check.enter(method.getName() + (says == null ? "" : " (\"" + says.value() + "\")") + ": ");
+        check.enter(method.getName() + (says == null ? "" : " (\"" + String.join("\", \"", says.value()) + "\")") + ": ");
         check.that("the words of the document", says != null);
         try {
             method.invoke(null);

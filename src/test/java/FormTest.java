@@ -25,10 +25,20 @@ public final class FormTest {
         "double density()", "int append(int) ARGUMENT STATE", "int clearText()", "int carryOut()", "int undo() STATE",
         "long digest()"));
 
+    private static final String[] ORDER = {
+        "---- nodes and edges", "begin", "add", "remove", "turn", "relieve", "balance", "setCapacity",
+        "---- values", "node", "edge", "edgeAt", "value",
+        "---- paths and parts", "path", "step", "inner", "densest", "least", "tooDense",
+        "---- what if", "leastWith", "leastWithout", "critical", "turnsToBalance", "leastCapacity", "density",
+        "---- text", "append", "clearText", "carryOut",
+        "---- state", "undo", "digest"};
+
     public static void main(String[] args) throws IOException {
         face();
         membersInside();
-        lines(Files.readAllLines(Path.of("src/main/java/EdgeHolders.java")));
+        List<String> lines = Files.readAllLines(Path.of("src/main/java/EdgeHolders.java"));
+        lines(lines);
+        order(lines);
         check.end();
     }
 
@@ -58,6 +68,23 @@ public final class FormTest {
             boolean isNone = field.getName().equals("NONE") && Modifier.isPublic(field.getModifiers());
             check.that(field + " is private, or NONE", isNone || Modifier.isPrivate(field.getModifiers()));
         }
+    }
+
+    /** The calls stand in the order of the document, and ahead of each group what the interface says there. */
+    private static void order(List<String> lines) {
+        Pattern group = Pattern.compile("// (---- .*)");
+        Pattern call = Pattern.compile("public (?:int|long|double) (\\w+)\\(.*");
+        StringBuilder found = new StringBuilder();
+        for (String line : lines) {
+            Matcher ahead = group.matcher(line.strip());
+            Matcher begun = call.matcher(line.strip());
+            if (ahead.matches()) {
+                found.append(ahead.group(1)).append('\n');
+            } else if (begun.matches()) {
+                found.append(begun.group(1)).append('\n');
+            }
+        }
+        check.dueText("the order of the calls", String.join("\n", ORDER) + "\n", found.toString());
     }
 
     private static String described(Method method) {

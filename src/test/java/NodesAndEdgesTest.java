@@ -3,24 +3,14 @@ public final class NodesAndEdgesTest {
     private static final Check check = new Check();
 
     public static void main(String[] args) {
-        newObject();
-        begin();
-        beginForgetsEverything();
-        add();
-        addByLoads();
-        addWrongly();
-        remove();
-        turn();
-        relieve();
-        relieveAlongPaths();
-        relieveWrongly();
-        balance();
-        balanceWhenTheLowestCannot();
-        setCapacity();
+        Cases.run(NodesAndEdgesTest.class, check, 1, 8);
         check.end();
     }
 
-    private static void newObject() {
+    @Says({
+        "`EdgeHolders()`: Creates 6 nodes without edges.",
+        "There are 2 to 12 nodes, initially 6, numbered from 0"})
+    static void promise01_newObject_startsAnew() {
         EdgeHolders x = new EdgeHolders();
         check.due("NONE", -1, EdgeHolders.NONE);
         int[] values = {6, 0, 0, 0, 0, 0, 0, 0};
@@ -36,7 +26,10 @@ public final class NodesAndEdgesTest {
         check.due("another object has its own edges", 0, other.value(1));
     }
 
-    private static void begin() {
+    @Says({
+        "Begins with other nodes",
+        "Returns the edges that there were."})
+    static void promise02_begin_withOtherNodes() {
         EdgeHolders x = Check.withEdges(6, "ab", "bc", "ab");
         x.turn(0);
         x.setCapacity(2, 9);
@@ -61,7 +54,8 @@ public final class NodesAndEdgesTest {
         }
     }
 
-    private static void beginForgetsEverything() {
+    @Says("there are no edges, all capacities are 3, and all numbers and counts are as at first")
+    static void promise02_begin_forgetsEverything() {
         for (int nodes = 12; nodes >= 2; nodes--) {
             EdgeHolders x = Check.withEdges(12);
             for (int edge = 0; edge < 40; edge++) {
@@ -87,7 +81,12 @@ public final class NodesAndEdgesTest {
         }
     }
 
-    private static void add() {
+    @Says({
+        "Adds an edge.",
+        "Returns its number.",
+        "An edge joins two different nodes, its first and its second end",
+        "numbered from 0 in the order in which they were added; a number is not used again, but by undo()"})
+    static void promise03_add_anEdge() {
         EdgeHolders x = new EdgeHolders();
         check.due("the first edge", 0, x.add(2, 4));
         check.due("the second edge", 1, x.add(4, 2));
@@ -107,7 +106,10 @@ public final class NodesAndEdgesTest {
         check.due("a new edge was never turned", 0, x.edge(2, 3));
     }
 
-    private static void addByLoads() {
+    @Says({
+        "When an edge is added, it is held by the end with the lesser load; if both loads are the same, by its first end.",
+        "Each edge is held by one of its ends."})
+    static void promise03_add_byLoads() {
         EdgeHolders x = new EdgeHolders();
         x.add(0, 1);
         check.due("same loads: the first end", 0, x.edge(0, 2));
@@ -123,7 +125,11 @@ public final class NodesAndEdgesTest {
         check.dueRow("adding turns nothing", Check.row(0, 0, 0, 0, 0), Check.edgeValues(x, 3));
     }
 
-    private static void addWrongly() {
+    @Says({
+        "Throws `IndexOutOfBoundsException` if there is no such node",
+        "Throws `IllegalArgumentException` if both are the same",
+        "Throws `IllegalStateException` if there are 40 edges"})
+    static void promise03_add_wrongly() {
         EdgeHolders x = Check.withEdges(4, "ab");
         check.dueThrow("add(4, 0)", x, Check.INDEX, () -> x.add(4, 0));
         check.dueThrow("add(0, 4)", x, Check.INDEX, () -> x.add(0, 4));
@@ -146,7 +152,11 @@ public final class NodesAndEdgesTest {
         check.due("its number", 40, x.edgeAt(38));
     }
 
-    private static void remove() {
+    @Says({
+        "Removes an edge.",
+        "Returns the node that held it.",
+        "Throws `NoSuchElementException` if there is no such edge"})
+    static void promise04_remove_anEdge() {
         EdgeHolders x = Check.withEdges(6, "ab", "ab", "bc", "cd");
         check.dueRow("held before", Check.row(0, 1, 2, 3), Check.edgeValues(x, 2));
         x.turn(0);
@@ -169,7 +179,11 @@ public final class NodesAndEdgesTest {
         check.due("remove is undoable", 1, x.edgeAt(0));
     }
 
-    private static void turn() {
+    @Says({
+        "Turns an edge.",
+        "Returns the node that holds it then.",
+        "Throws `NoSuchElementException` if there is no such edge"})
+    static void promise05_turn_anEdge() {
         EdgeHolders x = Check.withEdges(3, "ab", "cb");
         check.due("turn to the second end", 1, x.turn(0));
         check.due("turn back", 0, x.turn(0));
@@ -186,7 +200,10 @@ public final class NodesAndEdgesTest {
         }
     }
 
-    private static void relieve() {
+    @Says({
+        "Relieves a node.",
+        "of the nodes that are visited from u on, the first one in the order of visiting whose load is at most the load of u minus 2 is taken as v, and the path to it is turned"})
+    static void promise06_relieve_aNode() {
         EdgeHolders x = Check.withEdges(3, "ab", "ab", "ab", "bc");
         check.dueRow("loads before", Check.row(2, 1, 1), Check.loads(x));
         check.dueThrow("a load less by one is not enough", x, Check.STATE, () -> x.relieve(0));
@@ -203,7 +220,10 @@ public final class NodesAndEdgesTest {
         check.dueRow("relieve is undoable", Check.row(2, 2, 0), Check.loads(x));
     }
 
-    private static void relieveAlongPaths() {
+    @Says({
+        "To turn a path means to turn all its edges: the load of u falls by 1, that of v grows by 1, all others stay.",
+        "Returns the number of edges that are turned."})
+    static void promise06_relieve_alongPaths() {
         // a holds two; b, c, d hold one each in a row; e holds none
         EdgeHolders x = Check.withEdges(6, "ab", "bc", "cd", "de", "af");
         check.dueRow("loads before", Check.row(1, 1, 1, 1, 0, 1), Check.loads(x));
@@ -216,7 +236,10 @@ public final class NodesAndEdgesTest {
         check.dueRow("turnings", Check.row(1, 1, 1, 1, 1, 0), Check.edgeValues(x, 3));
     }
 
-    private static void relieveWrongly() {
+    @Says({
+        "Throws `IndexOutOfBoundsException` if there is no such node",
+        "Throws `IllegalStateException` if it cannot be relieved"})
+    static void promise06_relieve_wrongly() {
         EdgeHolders x = Check.withEdges(3, "ab", "ab", "ab");
         check.dueThrow("relieve(3)", x, Check.INDEX, () -> x.relieve(3));
         check.dueThrow("relieve(-1)", x, Check.INDEX, () -> x.relieve(-1));
@@ -231,7 +254,10 @@ public final class NodesAndEdgesTest {
         check.dueThrow("nodes that were visited earlier do not count", y, Check.STATE, () -> y.relieve(0));
     }
 
-    private static void balance() {
+    @Says({
+        "Balances.",
+        "Returns the number of nodes that are relieved (a node that is relieved twice counts twice)."})
+    static void promise07_balance_someNodes() {
         EdgeHolders x = Check.withEdges(4, "ab", "ac", "ad");
         x.turn(1);
         x.turn(2);
@@ -254,7 +280,8 @@ public final class NodesAndEdgesTest {
         check.due("that saves, too", 0, none.undo());
     }
 
-    private static void balanceWhenTheLowestCannot() {
+    @Says("as long as some node with the greatest load of all can be relieved, the one with the lowest number of those that can is relieved")
+    static void promise07_balance_whenTheLowestCannot() {
         // a and b hold two each and reach nobody else; e holds two and can be relieved
         EdgeHolders x = Check.withEdges(6, "ab", "ab", "ab", "ab", "ef", "ef");
         x.turn(5);
@@ -274,7 +301,12 @@ public final class NodesAndEdgesTest {
         check.dueRow("holders", Check.row(2, 1, 0, 1), Check.edgeValues(z, 2));
     }
 
-    private static void setCapacity() {
+    @Says({
+        "Sets a capacity.",
+        "Returns the previous capacity.",
+        "Throws `IndexOutOfBoundsException` if there is no such node",
+        "Throws `IllegalArgumentException` if capacity is out of range"})
+    static void promise08_setCapacity_ofANode() {
         EdgeHolders x = Check.withEdges(3, "ab", "ab");
         check.due("the capacity at first", 3, x.setCapacity(0, 0));
         check.due("the one before", 0, x.setCapacity(0, 40));
@@ -287,5 +319,54 @@ public final class NodesAndEdgesTest {
         check.dueThrow("setCapacity(0, 41)", x, Check.ARGUMENT, () -> x.setCapacity(0, 41));
         check.dueThrow("setCapacity(0, -1)", x, Check.ARGUMENT, () -> x.setCapacity(0, -1));
         check.dueThrow("no node comes first", x, Check.INDEX, () -> x.setCapacity(3, 41));
+    }
+
+    /** Behind the call and undo all answers are as before the call, but not behind the call alone. */
+    private static void dueUndoable(Check.Deed call) {
+        Look.dueAlike(check, "undone", Scenes::one, () -> {
+            EdgeHolders x = Scenes.one();
+            call.to(x);
+            check.due("the saved states that remain", 1, x.undo());
+            return x;
+        });
+        EdgeHolders x = Scenes.one();
+        String before = Check.picture(x);
+        call.to(x);
+        check.that("the call changes something", !before.equals(Check.picture(x)));
+    }
+
+    @Says("Undoable.")
+    static void promise02_begin_isUndoable() {
+        dueUndoable(x -> x.begin(2));
+    }
+
+    @Says("Undoable.")
+    static void promise03_add_isUndoable() {
+        dueUndoable(x -> x.add(4, 5));
+    }
+
+    @Says("Undoable.")
+    static void promise04_remove_isUndoable() {
+        dueUndoable(x -> x.remove(1));
+    }
+
+    @Says("Undoable.")
+    static void promise05_turn_isUndoable() {
+        dueUndoable(x -> x.turn(0));
+    }
+
+    @Says("Undoable.")
+    static void promise06_relieve_isUndoable() {
+        dueUndoable(x -> x.relieve(0));
+    }
+
+    @Says("Undoable.")
+    static void promise07_balance_isUndoable() {
+        dueUndoable(EdgeHolders::balance);
+    }
+
+    @Says("Undoable.")
+    static void promise08_setCapacity_isUndoable() {
+        dueUndoable(x -> x.setCapacity(0, 0));
     }
 }

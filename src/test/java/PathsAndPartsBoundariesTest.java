@@ -229,7 +229,7 @@ public final class PathsAndPartsBoundariesTest {
     @Says("of several, the one with the most nodes; of several, the one with the least number")
     static void promise16_densest_ofAllSmallGraphs() {
         for (int graph = 0; graph < 729; graph++) {
-            EdgeHolders x = small(graph);
+            EdgeHolders x = Scenes.small(graph);
             int best = 1;
             for (int part = 2; part < 16; part++) {
                 int nodes = Integer.bitCount(part);
@@ -241,21 +241,6 @@ public final class PathsAndPartsBoundariesTest {
             check.due("least of the graph " + graph,
                 (x.inner(best) + Integer.bitCount(best) - 1) / Integer.bitCount(best), x.least());
         }
-    }
-
-    /** Four nodes; each digit of the number, in threes, says how many edges join one pair of them. */
-    private static EdgeHolders small(int graph) {
-        String[] pairs = {"ab", "ac", "ad", "bc", "bd", "cd"};
-        EdgeHolders x = new EdgeHolders();
-        x.begin(4);
-        int rest = graph;
-        for (String pair : pairs) {
-            for (int edge = 0; edge < rest % 3; edge++) {
-                x.add(pair.charAt(0) - 'a', pair.charAt(1) - 'a');
-            }
-            rest /= 3;
-        }
-        return x;
     }
 
     @Says("There are at most 40")
@@ -370,7 +355,7 @@ public final class PathsAndPartsBoundariesTest {
     @Says("of several the one with the least number; NONE if no part has more inner edges than this sum")
     static void promise18_tooDense_ofAllSmallGraphs() {
         for (int graph = 0; graph < 729; graph++) {
-            EdgeHolders x = small(graph);
+            EdgeHolders x = Scenes.small(graph);
             int[] capacities = {graph % 2, graph / 2 % 3, graph % 5 / 2, graph / 7 % 2};
             for (int node = 0; node < 4; node++) {
                 x.setCapacity(node, capacities[node]);

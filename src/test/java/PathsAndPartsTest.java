@@ -3,19 +3,15 @@ public final class PathsAndPartsTest {
     private static final Check check = new Check();
 
     public static void main(String[] args) {
-        path();
-        pathOfSeveral();
-        pathInOrderOfVisiting();
-        step();
-        inner();
-        densest();
-        least();
-        leastIsTheLeastOfAllTurnings();
-        tooDense();
+        Cases.run(PathsAndPartsTest.class, check, 13, 18);
         check.end();
     }
 
-    private static void path() {
+    @Says({
+        "Returns the number of edges of the path from a node to another one.",
+        "Returns the number of edges; 0 if both are the same; NONE if there is no path.",
+        "Throws `IndexOutOfBoundsException` if there is no such node"})
+    static void promise13_path_ofSomeEdges() {
         EdgeHolders x = Check.withEdges(6, "ab", "bc", "cd", "da");
         check.dueRow("holders", Check.row(0, 1, 2, 3), Check.edgeValues(x, 2));
         check.due("one edge", 1, x.path(0, 1));
@@ -36,7 +32,39 @@ public final class PathsAndPartsTest {
         }
     }
 
-    private static void pathOfSeveral() {
+    @Says({
+        "A path from a node u to another node v is a row of edges: the first one is held by u, each edge is held by one node of the path and its other end is the next node of the path, which holds the next edge, and so on; the other end of the last edge is v.",
+        "A path is found like this: nodes are visited from u on; from a visited node, its edges are looked at in ascending order of the numbers; the other end of an edge that it holds is visited by this edge if it has not been visited yet"})
+    static void promise13_path_isARowOfHeldEdges() {
+        for (int graph = 0; graph < 729; graph += 7) {
+            dueRowsOfHeldEdges(Scenes.small(graph));
+            EdgeHolders turned = Scenes.small(graph);
+            for (int index = graph % 2; index < turned.value(1); index += 2) {
+                turned.turn(turned.edgeAt(index));
+            }
+            dueRowsOfHeldEdges(turned);
+        }
+    }
+
+    /** A path leads from holder to holder, and there is one to each node that is visited, and to no other. */
+    private static void dueRowsOfHeldEdges(EdgeHolders x) {
+        for (int pair = 0; pair < 16; pair++) {
+            int from = pair / 4;
+            int to = pair % 4;
+            int length = x.path(from, to);
+            check.due("there is a path to the visited", x.node(from, 4) >> to & 1, length == EdgeHolders.NONE ? 0 : 1);
+            int node = from;
+            for (int place = 0; place < length; place++) {
+                int edge = x.step(from, to, place);
+                check.due("the holder of the edge at " + place, node, x.edge(edge, 2));
+                node = x.edge(edge, 0) + x.edge(edge, 1) - node;
+            }
+            check.due("the other end of the last edge", length == EdgeHolders.NONE ? from : to, node);
+        }
+    }
+
+    @Says("from a visited node, its edges are looked at in ascending order of the numbers")
+    static void promise14_step_ofSeveralEdges() {
         EdgeHolders x = Check.withEdges(3, "ab", "ab", "ab", "ab");
         check.dueRow("holders", Check.row(0, 1, 0, 1), Check.edgeValues(x, 2));
         check.due("the lowest of several edges", 0, x.step(0, 1, 0));
@@ -46,7 +74,8 @@ public final class PathsAndPartsTest {
         check.due("the lowest one back", 0, x.step(1, 0, 0));
     }
 
-    private static void pathInOrderOfVisiting() {
+    @Says("nodes are looked at in the order in which they were visited. The path to v goes by the edges by which the nodes were visited.")
+    static void promise14_step_inTheOrderOfVisiting() {
         // a holds the edges to c (0) and b (1); both hold one to d: c was visited first, so d is visited from c
         EdgeHolders x = Check.withEdges(6, "ac", "ab", "bd", "cd");
         x.turn(1);
@@ -76,7 +105,12 @@ public final class PathsAndPartsTest {
         }
     }
 
-    private static void step() {
+    @Says({
+        "Returns an edge of the path from a node to another one.",
+        "0 for the edge that is held by from, and so on",
+        "Returns its number.",
+        "Throws `IndexOutOfBoundsException` if there is no such node, or the path has not so many edges (or there is none)"})
+    static void promise14_step_eachPlace() {
         EdgeHolders x = Check.withEdges(6, "ab", "bc", "cd");
         x.remove(0);
         x.add(0, 1);
@@ -100,7 +134,12 @@ public final class PathsAndPartsTest {
         }
     }
 
-    private static void inner() {
+    @Says({
+        "Returns the number of inner edges of a part.",
+        "Returns their number.",
+        "A part is a set of one or more nodes, told as a number (bit n for the node n). Its inner edges are those with both ends in it.",
+        "Throws `IllegalArgumentException` if part is empty or has a node that there is not"})
+    static void promise15_inner_eachPart() {
         EdgeHolders x = Check.withEdges(4, "ab", "ba", "bc", "cd", "ad");
         int[] due = {0, 0, 2, 0, 0, 1, 3, 0, 1, 0, 3, 1, 2, 2, 5};
         for (int part = 1; part < 16; part++) {
@@ -116,7 +155,11 @@ public final class PathsAndPartsTest {
         check.dueThrow("inner(4096)", x, Check.ARGUMENT, () -> x.inner(4096));
     }
 
-    private static void densest() {
+    @Says({
+        "Returns the densest part.",
+        "Returns the set of its nodes.",
+        "Its density is the number of its inner edges divided by the number of its nodes."})
+    static void promise16_densest_ofSomeParts() {
         EdgeHolders x = Check.withEdges(12);
         check.due("without edges all nodes", 4095, x.densest());
         check.due("of two nodes", 3, Check.withEdges(2).densest());
@@ -137,7 +180,10 @@ public final class PathsAndPartsTest {
         check.due("less nodes, denser", 7, Check.withEdges(6, "ab", "ac", "bc", "bc", "cd").densest());
     }
 
-    private static void least() {
+    @Says({
+        "Returns the least greatest load that can be reached by turning edges.",
+        "Returns the load."})
+    static void promise17_least_ofSomeEdges() {
         check.due("without edges", 0, new EdgeHolders().least());
         EdgeHolders x = Check.withEdges(4, "ab");
         int[] due = {1, 1, 2, 2, 3, 3};
@@ -155,7 +201,8 @@ public final class PathsAndPartsTest {
         check.due("five edges on four nodes", 2, Check.withEdges(4, "ab", "ac", "bc", "bd", "cd").least());
     }
 
-    private static void leastIsTheLeastOfAllTurnings() {
+    @Says("(The least greatest load that can be reached by turning edges is the density of the densest part, rounded up.)")
+    static void promise17_least_isTheLeastOfAllTurnings() {
         EdgeHolders x = Check.withEdges(5, "ab", "ac", "ad", "bc", "bd", "cd", "ab", "ae");
         int[][] ends = {Check.edgeValues(x, 0), Check.edgeValues(x, 1)};
         int least = Integer.MAX_VALUE;
@@ -173,7 +220,53 @@ public final class PathsAndPartsTest {
         check.due("balancing reaches it here", least, x.value(2));
     }
 
-    private static void tooDense() {
+    @Says("(The least greatest load that can be reached by turning edges is the density of the densest part, rounded up.)")
+    static void promise17_least_isTheLeastOfAllTurningsOfSmallGraphs() {
+        int[] noCapacities = new int[4];
+        for (int graph = 0; graph < 729; graph++) {
+            EdgeHolders x = Scenes.small(graph);
+            check.due("least of the graph " + graph, leastExcess(x, noCapacities), x.least());
+        }
+    }
+
+    @Says("Edges can be turned so that no load is greater than its capacity exactly if no part has more inner edges than the sum of the capacities of its nodes.")
+    static void promise18_tooDense_justIfNoTurningFits() {
+        int fitting = 0;
+        for (int graph = 0; graph < 729; graph++) {
+            int[] capacities = {graph % 3, graph / 3 % 4, graph / 5 % 3, 1 + graph / 11 % 2};
+            EdgeHolders x = Scenes.small(graph);
+            for (int node = 0; node < 4; node++) {
+                x.setCapacity(node, capacities[node]);
+            }
+            boolean fits = leastExcess(x, capacities) <= 0;
+            fitting += fits ? 1 : 0;
+            check.that("tooDense of the graph " + graph, fits == (x.tooDense() == EdgeHolders.NONE));
+        }
+        check.that("some fit and some do not", fitting > 100 && fitting < 600);
+    }
+
+    /** By how much, of all turnings, the load that is most above its capacity is above it at least. */
+    private static int leastExcess(EdgeHolders x, int[] capacities) {
+        int[][] ends = {Check.edgeValues(x, 0), Check.edgeValues(x, 1)};
+        int least = Integer.MAX_VALUE;
+        for (int turned = 0; turned < 1 << ends[0].length; turned++) {
+            int[] loads = new int[capacities.length];
+            for (int edge = 0; edge < ends[0].length; edge++) {
+                loads[ends[turned >> edge & 1][edge]]++;
+            }
+            int most = Integer.MIN_VALUE;
+            for (int node = 0; node < loads.length; node++) {
+                most = Math.max(most, loads[node] - capacities[node]);
+            }
+            least = Math.min(least, most);
+        }
+        return least;
+    }
+
+    @Says({
+        "Finds a part that is too dense for the capacities.",
+        "Returns the part with the greatest number of inner edges minus the sum of its capacities, of several the one with the least number; NONE if no part has more inner edges than this sum."})
+    static void promise18_tooDense_ofSomeParts() {
         EdgeHolders x = Check.withEdges(4, "ab", "ab", "cd", "cd");
         check.due("capacities at first", EdgeHolders.NONE, x.tooDense());
         x.setCapacity(0, 1);

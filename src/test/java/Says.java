@@ -4,5 +4,5 @@ import java.lang.annotation.RetentionPolicy;
 /** The words of ../shared/DOC.md for which a case is made. */
 @Retention(RetentionPolicy.RUNTIME)
 @interface Says {
-    String value();
+    String[] value();
 }

@@ -63,6 +63,29 @@ final class Scenes {
         return x;
     }
 
+    /** Three edges and one saved state: the text made them all. */
+    static EdgeHolders one() {
+        EdgeHolders x = new EdgeHolders();
+        Check.carryOut(x, "+ab;+ab;+bc;t1;");
+        x.clearText();
+        return x;
+    }
+
+    /** Four nodes; each digit of the number below 729, in threes, says how many edges join one pair of them. */
+    static EdgeHolders small(int graph) {
+        String[] pairs = {"ab", "ac", "ad", "bc", "bd", "cd"};
+        EdgeHolders x = new EdgeHolders();
+        x.begin(4);
+        int rest = graph;
+        for (String pair : pairs) {
+            for (int edge = 0; edge < rest % 3; edge++) {
+                x.add(pair.charAt(0) - 'a', pair.charAt(1) - 'a');
+            }
+            rest /= 3;
+        }
+        return x;
+    }
+
     /** Twelve nodes in a row: each but the last holds the edge to the next one, the edge n is held by the node n. */
     static EdgeHolders rowOfTwelve() {
         return held(12, "ab", "bc", "cd", "de", "ef", "fg", "gh", "hi", "ij", "jk", "kl");

@@ -30,14 +30,6 @@ public final class StateBoundariesTest {
         check.end();
     }
 
-    /** Three edges and one saved state: the text made them all. */
-    private static EdgeHolders one() {
-        EdgeHolders x = new EdgeHolders();
-        Check.carryOut(x, "+ab;+ab;+bc;t1;");
-        x.clearText();
-        return x;
-    }
-
     // ---- promise 28
 
     @Says("Throws `IllegalStateException` if there is no saved state")
@@ -126,13 +118,13 @@ public final class StateBoundariesTest {
     static void promise28_undo_eachUndoableCallSavesOneState() {
         for (int at = 0; at < UNDOABLE.length; at++) {
             Check.Deed call = UNDOABLE_CALLS[at];
-            EdgeHolders x = one();
+            EdgeHolders x = Scenes.one();
             call.to(x);
             check.due(UNDOABLE[at] + ": the state before it remains", 1, x.undo());
             check.due(UNDOABLE[at] + ": and that one, too", 0, x.undo());
             check.dueThrown(UNDOABLE[at] + ": no more", Check.STATE, x::undo);
-            Look.dueAlike(check, UNDOABLE[at] + " undone", StateBoundariesTest::one, () -> {
-                EdgeHolders y = one();
+            Look.dueAlike(check, UNDOABLE[at] + " undone", Scenes::one, () -> {
+                EdgeHolders y = Scenes.one();
                 call.to(y);
                 y.undo();
                 y.clearText();
@@ -144,7 +136,7 @@ public final class StateBoundariesTest {
     @Says("at most 4 states are saved, and the oldest is dropped first")
     static void promise28_undo_eachUndoableCallDropsTheOldestOfFour() {
         for (int at = 0; at < UNDOABLE.length; at++) {
-            EdgeHolders x = one();
+            EdgeHolders x = Scenes.one();
             x.setCapacity(5, 11);
             x.setCapacity(5, 12);
             x.setCapacity(5, 13);
@@ -163,7 +155,7 @@ public final class StateBoundariesTest {
     @Says("Each successful call of a method whose description says \"undoable\"")
     static void promise28_undo_noOtherCallSavesAState() {
         for (int at = 0; at < OTHER.length; at++) {
-            EdgeHolders x = one();
+            EdgeHolders x = Scenes.one();
             OTHER_CALLS[at].to(x);
             check.due(OTHER[at] + ": the one state", 0, x.undo());
             check.dueThrown(OTHER[at] + ": no other", Check.STATE, x::undo);
@@ -182,7 +174,7 @@ public final class StateBoundariesTest {
             x -> x.begin(1), x -> x.begin(13), x -> x.add(6, 0), x -> x.add(0, 0), x -> x.remove(3), x -> x.turn(3),
             x -> x.relieve(3), x -> x.relieve(6), x -> x.setCapacity(6, 1), x -> x.setCapacity(0, 41)};
         for (Check.Deed call : calls) {
-            EdgeHolders x = one();
+            EdgeHolders x = Scenes.one();
             check.that("the call throws", Check.thrownBy(() -> call.to(x)) != null);
             check.due("the one state", 0, x.undo());
             EdgeHolders four = Scenes.busy();
@@ -241,7 +233,7 @@ public final class StateBoundariesTest {
 
     @Says("Restores the most recently saved state and removes it from the saved states.")
     static void promise28_undo_aSavedStateStaysAsItWasSaved() {
-        EdgeHolders x = one();
+        EdgeHolders x = Scenes.one();
         x.turn(0);
         x.turn(0);
         x.add(4, 5);

@@ -3,12 +3,7 @@ public final class StateTest {
     private static final Check check = new Check();
 
     public static void main(String[] args) {
-        undoEachMethod();
-        failedCallsSaveNothing();
-        atMostFour();
-        undoAll();
-        digestByHand();
-        digestSeesEverything();
+        Cases.run(StateTest.class, check, 28, 29);
         check.end();
     }
 
@@ -31,7 +26,8 @@ public final class StateTest {
         return seen.substring(0, seen.lastIndexOf(' ')) + " " + x.densest() + " " + x.least() + " " + x.tooDense();
     }
 
-    private static void undoEachMethod() {
+    @Says("Each successful call of a method whose description says \"undoable\" saves the state from before the call, even if the call changes nothing")
+    static void promise28_undo_eachMethod() {
         EdgeHolders a = some();
         dueUndone("begin", () -> a.begin(3), a);
         EdgeHolders b = some();
@@ -57,7 +53,8 @@ public final class StateTest {
         dueUndone("carryOut", k::carryOut, k);
     }
 
-    private static void failedCallsSaveNothing() {
+    @Says("A call that throws an exception changes nothing.")
+    static void promise28_undo_failedCallsSaveNothing() {
         EdgeHolders x = new EdgeHolders();
         x.add(0, 1);
         Check.Call[] calls = {
@@ -73,7 +70,8 @@ public final class StateTest {
         check.dueThrow("undo", x, Check.STATE, x::undo);
     }
 
-    private static void atMostFour() {
+    @Says("at most 4 states are saved, and the oldest is dropped first")
+    static void promise28_undo_atMostFour() {
         EdgeHolders x = new EdgeHolders();
         for (int node = 0; node < 6; node++) {
             x.setCapacity(node, 10 + node);
@@ -101,7 +99,8 @@ public final class StateTest {
         check.due("edge before", 1, x.value(1));
     }
 
-    private static void undoAll() {
+    @Says("The saved state contains everything except the text.")
+    static void promise28_undo_all() {
         EdgeHolders x = new EdgeHolders();
         x.append('b');
         x.add(0, 1);
@@ -115,7 +114,8 @@ public final class StateTest {
         check.due("the text stays", 1, x.clearText());
     }
 
-    private static void digestByHand() {
+    @Says("Returns a hash of the state. Start with h = 3779 and, for each of the following values v, set h = 31 * h + v")
+    static void promise29_digest_byHand() {
         EdgeHolders x = new EdgeHolders();
         long[] values = {0, 2, 0, 0, 0, 0, 0, 0, 0, 0, 0, 3, 0, 1, 0, 0, 3, 0, 2, 3, 0, -1, 1};
         x.begin(2);
@@ -149,7 +149,8 @@ public final class StateTest {
         return h;
     }
 
-    private static void digestSeesEverything() {
+    @Says("the length of the text; value() for 0 to 7; for each node the values of node() for what = 0 to 4; for each edge, in ascending order, its number and the values of edge() for what = 0 to 3; densest(); least(); tooDense(); the number of saved states")
+    static void promise29_digest_seesEverything() {
         EdgeHolders x = some();
         long before = x.digest();
         check.due("the same twice", before, x.digest());

@@ -3,22 +3,16 @@ public final class TextTest {
     private static final Check check = new Check();
 
     public static void main(String[] args) {
-        append();
-        clearText();
-        syntaxOfPairs();
-        syntaxOfEdges();
-        syntaxOfNodes();
-        syntaxOfCapacities();
-        syntaxBehindOrders();
-        syntaxErrorChangesNothing();
-        orders();
-        ordersThatThrow();
-        orderAtFortyEdges();
-        textStaysAndOneUndo();
+        Cases.run(TextTest.class, check, 25, 27);
         check.end();
     }
 
-    private static void append() {
+    @Says({
+        "Appends a byte to the text.",
+        "Returns the new length of the text.",
+        "Throws `IllegalArgumentException` if value is out of range",
+        "Throws `IllegalStateException` if the text has 100 bytes"})
+    static void promise25_append_bytes() {
         EdgeHolders x = new EdgeHolders();
         check.due("the first byte", 1, x.append(0));
         check.due("the second byte", 2, x.append(127));
@@ -36,7 +30,10 @@ public final class TextTest {
         check.dueThrow("no state is saved", x, Check.STATE, x::undo);
     }
 
-    private static void clearText() {
+    @Says({
+        "Empties the text.",
+        "Returns the length that it had."})
+    static void promise26_clearText_aText() {
         EdgeHolders x = new EdgeHolders();
         check.due("an empty text", 0, x.clearText());
         Check.type(x, "+ab;");
@@ -62,7 +59,8 @@ public final class TextTest {
         check.that("'" + text + "' has no syntax error", Check.carryOut(x, text) >= 0);
     }
 
-    private static void syntaxOfPairs() {
+    @Says("\"+\" and two node letters a to l, to add an edge")
+    static void promise27_carryOut_syntaxOfPairs() {
         dueAt("+", 1);
         dueAt("+a", 2);
         dueAt("+ab", 3);
@@ -80,7 +78,8 @@ public final class TextTest {
         dueWell("+cc;");
     }
 
-    private static void syntaxOfEdges() {
+    @Says("\"-\" and an edge number of one to three digits, to remove it; \"t\" and an edge number of one to three digits, to turn it")
+    static void promise27_carryOut_syntaxOfEdges() {
         for (String kind : new String[] {"-", "t"}) {
             dueAt(kind, 1);
             dueAt(kind + ";", 1);
@@ -99,7 +98,8 @@ public final class TextTest {
         }
     }
 
-    private static void syntaxOfNodes() {
+    @Says("\"r\" and a node letter, to relieve it; \"b\", to balance")
+    static void promise27_carryOut_syntaxOfNodes() {
         dueAt("r", 1);
         dueAt("r;", 1);
         dueAt("rm", 1);
@@ -112,7 +112,8 @@ public final class TextTest {
         dueWell("b;");
     }
 
-    private static void syntaxOfCapacities() {
+    @Says("\"c\", a node letter, \"=\", and a number of one or two digits, 0 to 40, to set a capacity")
+    static void promise27_carryOut_syntaxOfCapacities() {
         dueAt("c", 1);
         dueAt("cm", 1);
         dueAt("c1", 1);
@@ -141,7 +142,10 @@ public final class TextTest {
         dueWell("cl=40;");
     }
 
-    private static void syntaxBehindOrders() {
+    @Says({
+        "It is a sequence of orders, each terminated by a semicolon",
+        "There are no spaces; there may be no orders."})
+    static void promise27_carryOut_syntaxBehindOrders() {
         dueAt(" ", 0);
         dueAt(";", 0);
         dueAt("B;", 0);
@@ -159,7 +163,8 @@ public final class TextTest {
         dueWell("b;".repeat(50));
     }
 
-    private static void syntaxErrorChangesNothing() {
+    @Says("Returns the number of orders that are carried out; -10 minus the syntax error position if there is a syntax error (then nothing changes).")
+    static void promise27_carryOut_syntaxErrorChangesNothing() {
         EdgeHolders x = new EdgeHolders();
         check.due("a wrong text", -16, Check.carryOut(x, "+ab;b;x"));
         check.due("no order is carried out", 0, x.value(1));
@@ -169,7 +174,8 @@ public final class TextTest {
         check.due("saves one state", 0, x.undo());
     }
 
-    private static void orders() {
+    @Says("Carries out the orders of the text")
+    static void promise27_carryOut_orders() {
         EdgeHolders x = new EdgeHolders();
         check.due("adding", 3, Check.carryOut(x, "+ab;+ab;+fc;"));
         check.dueRow("first ends", Check.row(0, 0, 5), Check.edgeValues(x, 0));
@@ -210,7 +216,8 @@ public final class TextTest {
         check.due("undone", 3, x.node(5, 2));
     }
 
-    private static void ordersThatThrow() {
+    @Says("up to the first one that would throw an exception (that one is not carried out)")
+    static void promise27_carryOut_ordersThatThrow() {
         dueStop("+aa;");
         dueStop("+gg;");
         dueStop("+ag;");
@@ -230,7 +237,8 @@ public final class TextTest {
         check.due("relieving a second time", 3, Check.carryOut(x, "+ab;t1;t1;ra;b;"));
     }
 
-    private static void orderAtFortyEdges() {
+    @Says("There are at most 40")
+    static void promise27_carryOut_orderAtFortyEdges() {
         EdgeHolders x = new EdgeHolders();
         check.due("25 orders", 25, Check.carryOut(x, "+ab;".repeat(25)));
         check.due("15 orders of 25", 15, x.carryOut());
@@ -242,7 +250,8 @@ public final class TextTest {
         check.due("its number", 40, x.edgeAt(39));
     }
 
-    private static void textStaysAndOneUndo() {
+    @Says("The text stays as it is. Undoable (one saved state, also if no order is carried out), if there is no syntax error.")
+    static void promise27_carryOut_textStaysAndOneUndo() {
         EdgeHolders x = new EdgeHolders();
         check.due("three orders", 3, Check.carryOut(x, "+ab;+ab;t1;"));
         check.due("again", 3, x.carryOut());

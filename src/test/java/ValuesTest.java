@@ -3,14 +3,18 @@ public final class ValuesTest {
     private static final Check check = new Check();
 
     public static void main(String[] args) {
-        node();
-        edge();
-        edgeAt();
-        value();
+        Cases.run(ValuesTest.class, check, 9, 12);
         check.end();
     }
 
-    private static void node() {
+    @Says({
+        "Returns something about a node.",
+        "0 its load, 1 the number of its edges, 2 its capacity, 3 the number of different nodes with which it is joined, 4 the set of the nodes that are visited from it on, itself too",
+        "Returns that value.",
+        "The load of a node is the number of edges that it holds.",
+        "Throws `IndexOutOfBoundsException` if there is no such node",
+        "Throws `IllegalArgumentException` if what is out of range"})
+    static void promise09_node_eachValue() {
         EdgeHolders x = Check.withEdges(5, "ab", "ba", "bc", "cd", "bc");
         x.setCapacity(1, 5);
         check.dueRow("holders", Check.row(0, 1, 2, 3, 1), Check.edgeValues(x, 2));
@@ -31,7 +35,13 @@ public final class ValuesTest {
         check.dueThrow("node(12, 0)", x, Check.INDEX, () -> x.node(12, 0));
     }
 
-    private static void edge() {
+    @Says({
+        "Returns something about an edge.",
+        "0 its first end, 1 its second end, 2 the node that holds it, 3 how often it was turned so far, by any method",
+        "Returns that value.",
+        "Throws `NoSuchElementException` if there is no such edge",
+        "Throws `IllegalArgumentException` if what is out of range"})
+    static void promise10_edge_eachValue() {
         EdgeHolders x = Check.withEdges(6, "ab", "dc", "fa");
         x.turn(1);
         x.turn(1);
@@ -52,7 +62,12 @@ public final class ValuesTest {
         check.dueThrow("edge(1, -1)", x, Check.ARGUMENT, () -> x.edge(1, -1));
     }
 
-    private static void edgeAt() {
+    @Says({
+        "Returns the number of an edge.",
+        "0 for the edge with the lowest number, and so on",
+        "Returns the number.",
+        "Throws `IndexOutOfBoundsException` if there are not so many edges"})
+    static void promise11_edgeAt_eachIndex() {
         EdgeHolders x = Check.withEdges(6, "ab", "bc", "cd", "de");
         x.remove(1);
         x.add(4, 5);
@@ -68,7 +83,12 @@ public final class ValuesTest {
         check.dueThrow("edgeAt(0) without edges", x, Check.INDEX, () -> x.edgeAt(0));
     }
 
-    private static void value() {
+    @Says({
+        "Returns a number.",
+        "0 the nodes, 1 the edges, 2 the greatest load, 3 the least load, 4 the sum of the squares of all loads, 5 the edges that were turned so far (an edge that was turned twice counts twice), 6 the number that the next edge gets, 7 the nodes whose load is greater than their capacity",
+        "Returns that number.",
+        "Throws `IllegalArgumentException` if what is out of range"})
+    static void promise12_value_eachValue() {
         EdgeHolders x = Check.withEdges(4, "ab", "ab", "ab", "ac", "cd", "ca");
         x.turn(1);
         x.turn(1);

@@ -3,18 +3,16 @@ public final class WhatIfTest {
     private static final Check check = new Check();
 
     public static void main(String[] args) {
-        leastWith();
-        leastWithAtFortyEdges();
-        leastWithout();
-        critical();
-        turnsToBalance();
-        leastCapacity();
-        density();
-        changesNothing();
+        Cases.run(WhatIfTest.class, check, 19, 24);
         check.end();
     }
 
-    private static void leastWith() {
+    @Says({
+        "Tells the least greatest load if an edge was there, too.",
+        "Returns the load.",
+        "Throws `IndexOutOfBoundsException` if there is no such node",
+        "Throws `IllegalArgumentException` if both are the same"})
+    static void promise19_leastWith_someEdge() {
         EdgeHolders x = new EdgeHolders();
         check.due("the first edge", 1, x.leastWith(0, 5));
         x.add(0, 1);
@@ -37,7 +35,8 @@ public final class WhatIfTest {
         check.dueThrow("leastWith(2, 2)", x, Check.ARGUMENT, () -> x.leastWith(2, 2));
     }
 
-    private static void leastWithAtFortyEdges() {
+    @Says("Tells the least greatest load if an edge was there, too.")
+    static void promise19_leastWith_atFortyEdges() {
         EdgeHolders x = Check.withEdges(2);
         for (int edge = 0; edge < 40; edge++) {
             x.add(0, 1);
@@ -47,7 +46,11 @@ public final class WhatIfTest {
         check.due("one less", 20, x.leastWithout(39));
     }
 
-    private static void leastWithout() {
+    @Says({
+        "Tells the least greatest load if an edge was not there.",
+        "Returns the load.",
+        "Throws `NoSuchElementException` if there is no such edge"})
+    static void promise20_leastWithout_eachEdge() {
         EdgeHolders x = Check.withEdges(6, "ab", "ab", "ab", "cd");
         check.due("least", 2, x.least());
         check.due("without one of three", 1, x.leastWithout(0));
@@ -62,7 +65,10 @@ public final class WhatIfTest {
         }
     }
 
-    private static void critical() {
+    @Says({
+        "Finds the edge without which the least greatest load would be less than it is.",
+        "Returns the edge, of several the lowest one; NONE if there is none."})
+    static void promise21_critical_ofSomeEdges() {
         EdgeHolders x = new EdgeHolders();
         check.due("without edges", EdgeHolders.NONE, x.critical());
         x.add(4, 5);
@@ -88,7 +94,10 @@ public final class WhatIfTest {
         check.due("in the part alone", 2, w.critical());
     }
 
-    private static void turnsToBalance() {
+    @Says({
+        "Tells how many edges balancing would turn (an edge that is turned twice counts twice).",
+        "Returns the number of turnings."})
+    static void promise22_turnsToBalance_somePaths() {
         EdgeHolders x = Check.withEdges(4, "ab", "bc", "ab", "bd");
         check.dueRow("loads", Check.row(2, 1, 0, 1), Check.loads(x));
         check.due("a path of two edges", 2, x.turnsToBalance());
@@ -119,7 +128,10 @@ public final class WhatIfTest {
         check.due("afterwards", 0, x.turnsToBalance());
     }
 
-    private static void leastCapacity() {
+    @Says({
+        "Finds the least capacity, the same for all nodes, with which no part would be too dense.",
+        "Returns the capacity."})
+    static void promise23_leastCapacity_withEachCapacity() {
         EdgeHolders x = new EdgeHolders();
         check.due("without edges", 0, x.leastCapacity());
         for (int edge = 0; edge < 7; edge++) {
@@ -135,7 +147,10 @@ public final class WhatIfTest {
         }
     }
 
-    private static void density() {
+    @Says({
+        "Returns the greatest density.",
+        "Returns the inner edges of the densest part, converted to double, divided by its nodes, converted to double."})
+    static void promise24_density_ofSomeParts() {
         EdgeHolders x = new EdgeHolders();
         check.dueReal("without edges", 0.0, x.density());
         x.add(0, 1);
@@ -151,7 +166,8 @@ public final class WhatIfTest {
         check.dueReal("less", 1.0, x.density());
     }
 
-    private static void changesNothing() {
+    @Says("Nothing is promised beyond the answers and state changes described above")
+    static void promise24_density_noQuestionChangesAnything() {
         EdgeHolders x = Check.withEdges(6, "ab", "ab", "ab", "cd");
         x.turn(1);
         String before = Check.picture(x);
