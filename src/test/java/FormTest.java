@@ -25,7 +25,7 @@ public final class FormTest {
         "double density()", "int append(int) ARGUMENT STATE", "int clearText()", "int carryOut()", "int undo() STATE",
         "long digest()"));
 
-    private static final String[] ORDER = {
+    static final String[] ORDER = {
         "---- nodes and edges", "begin", "add", "remove", "turn", "relieve", "balance", "setCapacity",
         "---- values", "node", "edge", "edgeAt", "value",
         "---- paths and parts", "path", "step", "inner", "densest", "least", "tooDense",
